@@ -39,6 +39,7 @@ public final class TableMachine {
     private static final int SORT_TABLE = 2;
 
     private static final long NOTHING = 0L;
+    // The int 1.
     private static final long TRUE = 5L;
     // No value has the sort 3.
     private static final long FAILED = 3L;
@@ -150,7 +151,8 @@ public final class TableMachine {
         return v >= 0 && v < VARIABLES;
     }
 
-    // The whole gets its value in register 0, so as a part it is moved up by the register it is to use.
+    // The code of an expression leaves its value in register 0; as the second part of another
+    // one it is moved up by a register, since the first part's value waits below.
     private void compile(int kind, int x, int y) {
         int at = expressionCount * MOST_WEIGHT;
         int parts = partsOf(kind);
@@ -163,7 +165,7 @@ public final class TableMachine {
         if (parts == 1) {
             emit(at, kind, 0);
         } else if (kind == KIND_AND || kind == KIND_OR) {
-            // The value is that of x or that of y, so y takes the register of x, or is jumped over.
+            // One of the two values is kept, so y takes the register of x or is jumped over.
             emit(at, kind, weights[y]);
             copyCode(y, at + 1, 0);
         } else {
@@ -237,15 +239,12 @@ public final class TableMachine {
         if (!isInt(y)) {
             return FAILED;
         }
+        int first = numberOf(x);
         int second = numberOf(y);
         if (kind == KIND_ENTRY) {
-            return isTable(x) ? entryOf(x, second) : FAILED;
+            return isTable(x) ? entryOf(first, second) : FAILED;
         }
-        if (!isInt(x)) {
-            return FAILED;
-        }
-        int first = numberOf(x);
-        return ofInts(kind, first, second);
+        return isInt(x) ? ofInts(kind, first, second) : FAILED;
     }
 
     private static long ofInts(int kind, int x, int y) {
@@ -256,7 +255,7 @@ public final class TableMachine {
                 return valueOf(SORT_INT, x - y);
             case KIND_MULTIPLY:
                 return valueOf(SORT_INT, x * y);
-            default:
+            default: // KIND_LESS
                 return x < y ? TRUE : NOTHING;
         }
     }
@@ -303,13 +302,12 @@ public final class TableMachine {
         return FAILED;
     }
 
-    private long entryOf(long table, int key) {
-        int at = findEntry(table, key);
+    private long entryOf(int place, int key) {
+        int at = findEntry(place, key);
         return at == NO_ENTRY ? NOTHING : entries[at];
     }
 
-    private int findEntry(long table, int key) {
-        int place = numberOf(table);
+    private int findEntry(int place, int key) {
         int first = place * MOST_ENTRIES;
         for (int i = 0; i < sizes[place]; i++) {
             if (keys[first + i] == key) {
@@ -326,7 +324,7 @@ public final class TableMachine {
         }
         int place = numberOf(table);
         int wanted = numberOf(key);
-        int at = findEntry(table, wanted);
+        int at = findEntry(place, wanted);
         if (entry == NOTHING) {
             removeEntry(place, at);
             return true;
@@ -505,6 +503,7 @@ public final class TableMachine {
             long entry = workOut(operandsZ[s]);
             return putEntry(table, key, entry) ? s + 1 : STOP;
         }
+        // For these two operand x is the variable.
         int e = op == OP_LET || op == OP_LOOP ? operandsY[s] : operandsX[s];
         long value = workOut(e);
         if (value == FAILED) {
@@ -518,13 +517,14 @@ public final class TableMachine {
                 return value == NOTHING ? lastNamed(s) + 1 : s + 1;
             case OP_LOOP:
                 return openLoop(s, value);
-            default:
+            default: // OP_SHOW
                 show(value);
                 return s + 1;
         }
     }
 
     // A LOOP begins as if a turn 0 were over; turnLoops then begins turn 1, or closes it again.
+    // Sound statements have no place for a third LOOP to be open.
     private int openLoop(int s, long value) {
         if (!isInt(value)) {
             return STOP;
@@ -580,7 +580,8 @@ public final class TableMachine {
         if (!isTable(variables[v])) {
             return NONE;
         }
-        long entry = entryOf(variables[v], key);
+        int place = numberOf(variables[v]);
+        long entry = entryOf(place, key);
         return sortOf(entry);
     }
 
@@ -588,7 +589,8 @@ public final class TableMachine {
         if (!isVariable(v) || !isTable(variables[v])) {
             return 0;
         }
-        long entry = entryOf(variables[v], key);
+        int place = numberOf(variables[v]);
+        long entry = entryOf(place, key);
         return seenNumber(entry);
     }
 
