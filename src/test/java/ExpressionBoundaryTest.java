@@ -231,11 +231,22 @@ public final class ExpressionBoundaryTest extends Sentences {
 
     private static void badPartsChangeNothing() {
         sentence("Promise 2: x or y no expression: BAD (and nothing is made)");
-        for (int kind = 2; kind <= 12; kind++) {
-            if (kind != 11) {
-                int it = kind;
-                noChange("kind " + kind + " of no expression", ExpressionBoundaryTest::someOfEverything,
-                    n -> due("kind " + it, n.express(it, -1, -1), BAD));
+        Machine counted = new Machine();
+        someOfEverything(counted);
+        int count = counted.num(0);
+        int[][] parts = {{-1, 0}, {0, -1}, {count, 0}, {0, count}, {-1, count}};
+        for (int[] it : parts) {
+            for (int kind : TWO_PARTS) {
+                String what = "kind " + kind + " of " + it[0] + " and " + it[1];
+                noChange(what, ExpressionBoundaryTest::someOfEverything,
+                    n -> due(what, n.express(kind, it[0], it[1]), BAD));
+            }
+            for (int kind : ONE_PART) {
+                if (it[0] != 0) {
+                    String what = "kind " + kind + " of " + it[0];
+                    noChange(what, ExpressionBoundaryTest::someOfEverything,
+                        n -> due(what, n.express(kind, it[0], 0), BAD));
+                }
             }
         }
     }
@@ -337,17 +348,28 @@ public final class ExpressionBoundaryTest extends Sentences {
 
     private static void heavyChangesNothing() {
         sentence("Promise 2: its weight would be above 7: FULL (and nothing is made)");
-        for (int kind = 2; kind <= 12; kind++) {
-            if (kind != 11) {
-                int it = kind;
-                noChange("a heavy one of kind " + kind, m -> {
-                    m.heavy(7);
-                    m.let(0, 6);
-                    m.show(5);
-                    m.ends("before the heavy one");
-                }, m -> due("kind " + it, m.express(it, 6, 6), FULL));
-            }
+        for (int kind : TWO_PARTS) {
+            refusesHeavy(kind, 2, 3);
+            refusesHeavy(kind, 5, 0);
+            refusesHeavy(kind, 6, 6);
         }
+        for (int kind : ONE_PART) {
+            refusesHeavy(kind, 6, 0);
+        }
+    }
+
+    // Expression e has the weight e + 1.
+    private static void refusesHeavy(int kind, int x, int y) {
+        String what = "kind " + kind + " of " + x + " and " + y;
+        noChange(what, m -> {
+            m.heavy(7);
+            m.let(0, 6);
+            m.show(5);
+            m.ends("before the heavy one");
+        }, m -> due(what, m.express(kind, x, y), FULL));
+    }
+
+    private static void badComesBeforeHeavy() {
         sentence("Promise 2: tested in this order: BAD before the weight");
         for (int kind : TWO_PARTS) {
             Machine m = new Machine();
@@ -470,7 +492,8 @@ public final class ExpressionBoundaryTest extends Sentences {
                 for (int y : parts) {
                     long value = m.worth(m.made(kind, x, y));
                     boolean ints = x == zero && y == zero;
-                    due("kind " + kind + " of " + x + " and " + y, value, !ints ? FAILS : kind == 5 ? NOTHING : anInt(0));
+                    long want = !ints ? FAILS : kind == 5 ? NOTHING : anInt(0);
+                    due("kind " + kind + " of " + x + " and " + y, value, want);
                 }
             }
         }
@@ -478,7 +501,8 @@ public final class ExpressionBoundaryTest extends Sentences {
 
     private static void lessThan() {
         sentence("Kind 5: the int 1 if x < y, else nothing");
-        int[][] pairs = {{-1, 0}, {0, 0}, {1, 0}, {MAX - 1, MAX}, {MAX, MAX}, {MAX, MAX - 1}, {MIN, MIN}, {MIN + 1, MIN},
+        int[][] pairs = {{-1, 0}, {0, 0}, {1, 0}, {MAX - 1, MAX}, {MAX, MAX}, {MAX, MAX - 1}, {MIN, MIN},
+            {MIN + 1, MIN},
             {MIN, MIN + 1}, {MIN, MAX}, {MAX, MIN}, {-1, MAX}, {MAX, -1}, {0, MIN}, {MIN, 0}, {1, MIN}, {MIN, 1},
             {-2, MAX}, {5, 4}, {4, 5}, {5, 5}};
         boolean[] less = {true, false, false, true, false, false, false, false, true, true, false, true, false, false,
@@ -496,7 +520,8 @@ public final class ExpressionBoundaryTest extends Sentences {
             {0, MIN}, {65536, 0}, {1 << 30, 0}};
         for (int[] it : ints) {
             Machine m = new Machine();
-            due(it[0] + " same " + it[1], m.worth(m.made(6, m.num(it[0]), m.num(it[1]))), it[0] == it[1] ? anInt(1) : NOTHING);
+            long value = m.worth(m.made(6, m.num(it[0]), m.num(it[1])));
+            due(it[0] + " same " + it[1], value, it[0] == it[1] ? anInt(1) : NOTHING);
         }
         Machine m = new Machine();
         int v0 = m.var(0);
@@ -648,6 +673,7 @@ public final class ExpressionBoundaryTest extends Sentences {
         weightOfOnePart();
         weightIsTheSum();
         heavyChangesNothing();
+        badComesBeforeHeavy();
         heavyOnesAreWorkedOut();
         partsAreWorkedOutAnew();
         aFailingPartFails();

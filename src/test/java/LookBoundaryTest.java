@@ -179,8 +179,8 @@ public final class LookBoundaryTest extends Sentences {
             due("entryNumber of a table with " + count, n.entryNumber(1, 1), count);
         }
         sentence("Promise 10: 0 in all other cases");
-        int[][] none = {{0, 0}, {0, 1}, {1, 0}, {1, 1}, {1, MIN}, {2, 0}, {2, 1}, {3, 0}, {3, 3}, {3, MAX - 1}, {3, MIN},
-            {4, 1}, {4, -1}, {4, MIN + 1}, {5, 1}, {5, MAX}};
+        int[][] none = {{0, 0}, {0, 1}, {1, 0}, {1, 1}, {1, MIN}, {2, 0}, {2, 1}, {3, 0}, {3, 3}, {3, MAX - 1},
+            {3, MIN}, {4, 1}, {4, -1}, {4, MIN + 1}, {5, 1}, {5, MAX}};
         for (int[] it : none) {
             due("entryNumber(" + it[0] + ", " + it[1] + ")", m.entryNumber(it[0], it[1]), 0);
         }

@@ -307,8 +307,8 @@ public final class RunBoundaryTest extends Sentences {
 
     private static void turns() {
         sentence("LOOP: up to what e gave but at most up to 5, if e gave less than 1 they are left out");
-        int[][] limits = {{MIN, 0}, {MIN + 1, 0}, {-2, 0}, {-1, 0}, {0, 0}, {1, 1}, {2, 2}, {3, 3}, {4, 4}, {5, 5}, {6, 5},
-            {7, 5}, {256, 5}, {MAX - 1, 5}, {MAX, 5}};
+        int[][] limits = {{MIN, 0}, {MIN + 1, 0}, {-2, 0}, {-1, 0}, {0, 0}, {1, 1}, {2, 2}, {3, 3}, {4, 4}, {5, 5},
+            {6, 5}, {7, 5}, {256, 5}, {MAX - 1, 5}, {MAX, 5}};
         for (int[] limit : limits) {
             Machine m = new Machine();
             int v = m.var(1);
@@ -641,8 +641,9 @@ public final class RunBoundaryTest extends Sentences {
         int six = 9;
         int zero = 10;
         int nothing = 11;
-        int[][] all = {{LET, 5, N1, 0}, {LET, 0, nothing, 0}, {PUT, 5, N1, N2}, {PUT, 5, six, 4}, {PUT, 5, six, nothing},
-            {IF, N1, 1, 0}, {IF, nothing, 1, 0}, {LOOP, 5, N1, 1}, {LOOP, 4, zero, 1}, {SHOW, N1, 0, 0}, {SHOW, 5, 0, 0}};
+        int[][] all = {{LET, 5, N1, 0}, {LET, 0, nothing, 0}, {PUT, 5, N1, N2}, {PUT, 5, six, 4},
+            {PUT, 5, six, nothing}, {IF, N1, 1, 0}, {IF, nothing, 1, 0}, {LOOP, 5, N1, 1}, {LOOP, 4, zero, 1},
+            {SHOW, N1, 0, 0}, {SHOW, 5, 0, 0}};
         for (int[] it : all) {
             for (int count = 8; count <= 9; count++) {
                 Machine m = withVariables();
