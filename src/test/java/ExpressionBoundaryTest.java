@@ -139,6 +139,34 @@ public final class ExpressionBoundaryTest extends Sentences {
         }
     }
 
+    private static void theLastAsHeavyAsCanBe() {
+        sentence("Terms: at most 30, each with a weight of at most 7 (both at once)");
+        for (int kind : TWO_PARTS) {
+            Machine m = new Machine();
+            int zero = m.num(0);
+            int one = m.num(1);
+            int sum = m.made(2, zero, one);
+            int table = m.made(7, one, m.fresh());
+            for (int e = 5; e < 29; e++) {
+                m.num(e);
+            }
+            due("the thirtieth, of kind " + kind, m.express(kind, kind == 10 ? table : sum, sum), 29);
+            long[] want = {anInt(2), anInt(0), anInt(1), NOTHING, anInt(1), anInt(1), anInt(1), 0, NOTHING};
+            due("its value", m.worth(29), want[kind - 2]);
+            due("a thirty-first", m.express(kind, sum, sum), FULL);
+            due("the one before it", m.worth(28), anInt(28));
+        }
+        for (int kind : ONE_PART) {
+            Machine m = new Machine();
+            int six = m.heavy(6);
+            for (int e = 6; e < 29; e++) {
+                m.num(e);
+            }
+            due("the thirtieth, of kind " + kind, m.express(kind, six, 0), 29);
+            due("its value", m.worth(29), kind == 9 ? anInt(1) : FAILS);
+        }
+    }
+
     // Expression 6 is as heavy as can be.
     private static void fill(Machine m, int count) {
         m.heavy(7);
@@ -664,6 +692,7 @@ public final class ExpressionBoundaryTest extends Sentences {
         entriesAreNotNothing();
         sixVariables();
         thirtyExpressions();
+        theLastAsHeavyAsCanBe();
         kindsFromZeroToTwelve();
         variableOfKindOne();
         partsAreEarlier();

@@ -720,10 +720,11 @@ public final class RunBoundaryTest extends Sentences {
     }
 
     private static void passingTablesDoNotCount() {
-        sentence("Terms: tables that a statement makes and leaves do not count");
+        sentence("Terms: tables that a statement makes and leaves do not count (12, in t, k and e)");
         Machine m = withVariables();
         int four = m.made(7, m.made(7, m.made(7, NEW, NEW), NEW), NEW);
-        int key = m.made(7, m.made(7, NEW, NEW), m.made(12, NEW, 0));
+        int unlike = m.made(6, NEW, NEW);
+        int key = m.made(6, unlike, unlike);
         wide(m, 8);
         m.put(four, key, four);
         m.show(four);
@@ -733,12 +734,14 @@ public final class RunBoundaryTest extends Sentences {
         m.ends("many that pass");
         due("those that stay", m.tables(), 8);
         due("the shown one", m.output(0), aTable(0));
+        due("the key that two unlike pairs make", m.worth(key), anInt(1));
         for (int v = 0; v < 6; v++) {
             due("entries of variable " + v, m.number(v), v == 5 ? 2 : 0);
         }
         m.put(5, key, four);
         m.ends("one that stays at the end");
         due("with it", m.tables(), 9);
+        due("it is the entry for 1", m.entrySort(5, 1), 2);
     }
 
     private static void theLastStatementMayMakeANinth() {
