@@ -190,16 +190,16 @@ public final class TableMachine {
     }
 
     private long workOut(int e) {
-        int end = e * MOST_WEIGHT + weights[e];
-        for (int at = e * MOST_WEIGHT; at < end; at++) {
+        int at = e * MOST_WEIGHT;
+        int end = at + weights[e];
+        for (int step = 0; step < MOST_WEIGHT && at < end; step++) {
             int kind = codeKinds[at];
             int r = codeRegisters[at];
             int parts = partsOf(kind);
+            int skip = 0;
             if (kind == KIND_AND || kind == KIND_OR) {
                 boolean nothing = registers[r] == NOTHING;
-                if (nothing == (kind == KIND_AND)) {
-                    at += codeOperands[at];
-                }
+                skip = nothing == (kind == KIND_AND) ? codeOperands[at] : 0;
             } else if (parts == 0) {
                 registers[r] = fetch(kind, codeOperands[at]);
             } else if (parts == 1) {
@@ -210,6 +210,7 @@ public final class TableMachine {
             if (registers[r] == FAILED) {
                 return FAILED;
             }
+            at += 1 + skip;
         }
         return registers[0];
     }
